@@ -40,6 +40,7 @@ final class PromisesTest {
         count();
         undo();
         undoRestoresAll();
+        undoOfEachChange();
         type();
         clearText();
         faultOfForm();
@@ -550,6 +551,19 @@ final class PromisesTest {
         due("craneOf(1)", x.craneOf(1), 1);
         due("craneOf(0)", x.craneOf(0), 1);
 
+        CraneGates z = lake(SLUICE, 1, 1);
+        z.order(1, 4);
+        z.pass(1);
+        z.fill(8000);
+        z.pass(2);
+        due("a mark alone", z.gateOf(1, 6), 4);
+        due("its gate by now", z.gateOf(1, 2), 2);
+        z.fill(0);
+        due("back to it, 3 and 4", z.minutesToRest(), 2);
+        z.pass(1);
+        due("craneOf(1)", z.craneOf(1), 1);
+        due("craneOf(2)", z.craneOf(2), 4);
+
         CraneGates y = lake(SLUICE, 1, 1, 1);
         y.set(0, 3000);
         y.set(1, 2500);
@@ -726,6 +740,7 @@ final class PromisesTest {
         due("would(4, 12)", x.would(4, 12), 2);
         due("would(5, 12)", x.would(5, 12), 3);
         due("would(7, 11)", x.would(7, 11), 1);
+        due("would(7, 10)", x.would(7, 10), 0);
         due("would(3, 0): 2000 + 3 * 5 - 3", x.would(3, 0), 2012);
         due("nothing has changed", x.count(4), 0);
         due("count(8)", x.count(8), 2);
@@ -800,6 +815,22 @@ final class PromisesTest {
         // 20 * 2 * 2 / 10 = 8: 1986, 12: 1974, which ends the flood; the order lowers the gate from 3 to 2
         due("count(1) behind 3 minutes", z.would(3, 0), 1974);
         due("minutesToRest()", z.minutesToRest(), 4);
+        // 999 - 999 = 0, which ends the flood in the next minute; 1001 - 2 = 999 at a head of 2, then the same
+        due("in the last minute", slowFlood(999).minutesToRest(), 1000);
+        due("a minute later", slowFlood(1001).minutesToRest(), NOTHING);
+        due("in the last minute", slowFlood(999).bestRule(1), 1000);
+        due("a minute later", slowFlood(1001).bestRule(1), NOTHING);
+    }
+
+    /** A flood that is due, an order that waits for its end, and an open sluice that lets head buckets out a minute. */
+    private static CraneGates slowFlood(int buckets) {
+        CraneGates x = lake(SLUICE, 1);
+        write(x, "o0,10;p10;").play();
+        x.set(0, 999);
+        x.set(1, 1);
+        x.fill(buckets);
+        x.order(0, 10);
+        return x;
     }
 
     /** How long the flood of minutesToRest() lasts, by the crane's way: -1 is a minute on the rail. */
@@ -965,6 +996,37 @@ final class PromisesTest {
     }
 
     private static void undoRestoresAll() {
+        CraneGates x = busyLake();
+        int[] before = allOf(x);
+        write(x, "w0,7;o2,3;x1;i200;p240;").play();
+        x.set(0, 9);
+        x.set(1, 8);
+        x.pass(240);
+        for (int i = 0; i < 4; i++) {
+            x.undo();
+        }
+        due("history", x.count(11), 0);
+        same("undone", allOf(x), before);
+    }
+
+    private static void undoOfEachChange() {
+        String[] names = {"gate", "order", "cancel", "inflow", "fill", "set", "set", "set", "pass", "pass", "play"};
+        int[] first = {1, 2, 1, 77, 5, 0, 1, 2, 1, 200, 0};
+        int[] second = {13, 7, 0, 0, 0, 99, 98, 1, 0, 0, 0};
+        CraneGates x = write(busyLake(), "w0,7;o2,3;x1;i200;p240;");
+        for (int i = 0; i < names.length; i++) {
+            int[] before = allOf(x);
+            int answer = Program.call(x, names[i], first[i], second[i]);
+            due(names[i] + " is a change", answer >= 0 ? 1 : 0, 1);
+            due("something is another", java.util.Arrays.equals(before, allOf(x)) ? 1 : 0, 0);
+            due("undo() of " + names[i], x.undo(), 3);
+            same("undo() of " + names[i], allOf(x), before);
+            x.inflow(33);
+        }
+    }
+
+    /** A lake with a flood, a task, a mark and an order that waits, and with a count other than 0 of everything. */
+    private static CraneGates busyLake() {
         CraneGates x = lake(FLAP, 3, 4, 5);
         x.gate(BEAM, 6);
         x.set(0, 3000);
@@ -974,19 +1036,23 @@ final class PromisesTest {
         x.pass(4);
         x.inflow(33);
         x.fill(9990);
-        x.pass(2);
-        int[] before = allOf(x);
-        write(x, "w0,7;o2,3;x1;i200;p240;").play();
-        x.set(0, 9);
-        x.set(1, 8);
-        x.set(2, 2);
-        for (int i = 0; i < 4; i++) {
-            x.undo();
+        x.pass(20);
+        x.inflow(33);
+        due("busy: a flood", x.count(9), 1);
+        due("busy: a mark", x.craneOf(6), 1);
+        due("busy: an order", x.count(8), 1);
+        for (int what = 5; what <= 8; what++) {
+            due("busy: count(" + what + ")", x.count(what) > 0 ? 1 : 0, 1);
         }
-        int[] after = allOf(x);
-        due("history", x.count(11), 0);
-        for (int i = 0; i < before.length; i++) {
-            due("undone, value " + i, after[i], before[i]);
+        for (int what = 0; what <= 6; what++) {
+            due("busy: craneOf(" + what + ")", x.craneOf(what) > 0 ? 1 : 0, 1);
+        }
+        return x;
+    }
+
+    private static void same(String what, int[] got, int[] want) {
+        for (int i = 0; i < want.length; i++) {
+            due(what + ", value " + i, got[i], want[i]);
         }
     }
 
