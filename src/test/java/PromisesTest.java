@@ -54,21 +54,12 @@ final class PromisesTest {
         check.due(call, got, want);
     }
 
-    /** A lake with gates of a kind, each of a width. */
     private static CraneGates lake(int kind, int... widths) {
-        CraneGates x = new CraneGates();
-        for (int width : widths) {
-            x.gate(kind, width);
-        }
-        return x;
+        return Make.lake(kind, widths);
     }
 
     private static CraneGates write(CraneGates x, String text) {
-        x.clearText();
-        for (char c : text.toCharArray()) {
-            x.type(c);
-        }
-        return x;
+        return Make.write(x, text);
     }
 
     private static void fault(CraneGates x, String text, int place, int reason) {
@@ -1013,31 +1004,20 @@ final class PromisesTest {
         String[] names = {"gate", "order", "cancel", "inflow", "fill", "set", "set", "set", "pass", "pass", "play"};
         int[] first = {1, 2, 1, 77, 5, 0, 1, 2, 1, 200, 0};
         int[] second = {13, 7, 0, 0, 0, 99, 98, 1, 0, 0, 0};
-        CraneGates x = write(busyLake(), "w0,7;o2,3;x1;i200;p240;");
         for (int i = 0; i < names.length; i++) {
+            CraneGates x = write(busyLake(), "w0,7;o2,3;x1;i200;p240;");
             int[] before = allOf(x);
             int answer = Program.call(x, names[i], first[i], second[i]);
             due(names[i] + " is a change", answer >= 0 ? 1 : 0, 1);
             due("something is another", java.util.Arrays.equals(before, allOf(x)) ? 1 : 0, 0);
             due("undo() of " + names[i], x.undo(), 3);
             same("undo() of " + names[i], allOf(x), before);
-            x.inflow(33);
         }
     }
 
     /** A lake with a flood, a task, a mark and an order that waits, and with a count other than 0 of everything. */
     private static CraneGates busyLake() {
-        CraneGates x = lake(FLAP, 3, 4, 5);
-        x.gate(BEAM, 6);
-        x.set(0, 3000);
-        x.set(1, 2000);
-        x.order(3, 8);
-        x.order(1, 5);
-        x.pass(4);
-        x.inflow(33);
-        x.fill(9990);
-        x.pass(20);
-        x.inflow(33);
+        CraneGates x = Make.busy();
         due("busy: a flood", x.count(9), 1);
         due("busy: a mark", x.craneOf(6), 1);
         due("busy: an order", x.count(8), 1);
@@ -1051,30 +1031,11 @@ final class PromisesTest {
     }
 
     private static void same(String what, int[] got, int[] want) {
-        for (int i = 0; i < want.length; i++) {
-            due(what + ", value " + i, got[i], want[i]);
-        }
+        Looks.same(check, what, got, want);
     }
 
-    /** All that can be seen but the history and the text. */
     private static int[] allOf(CraneGates x) {
-        java.util.List<Integer> all = new java.util.ArrayList<>();
-        for (int what = 0; what < 23; what++) {
-            if (what != 11 && what != 12) {
-                all.add(x.count(what));
-            }
-        }
-        for (int what = 0; what < 7; what++) {
-            all.add(x.craneOf(what));
-        }
-        for (int i = 0; i < 8; i++) {
-            all.add(x.orderAt(i));
-            all.add(x.markAt(i));
-            for (int what = 0; what < 8; what++) {
-                all.add(x.gateOf(i, what));
-            }
-        }
-        return all.stream().mapToInt(i -> i).toArray();
+        return Looks.state(x);
     }
 
     // ---- promises 20 and 21
@@ -1125,8 +1086,8 @@ final class PromisesTest {
             "o0.1;", "w0,1", "w0;", "w,;", "i", "i3", "i1234;", "x", "x0", "x;", "x0,1;", "p:;", "p/;", "p5:", "pp5;",
             "O0,1;", "W0,1;", "I1;", "X0;", "o0, 1;", "o9,", "i999", "p~;"};
         for (String text : wrong) {
-            fault(x, text, 0, 1);
-            fault(x, "p5;i30;" + text, 7, 1);
+            fault(lake(SLUICE, 1), text, 0, 1);
+            fault(lake(SLUICE, 1), "p5;i30;" + text, 7, 1);
         }
         fault(x, "p5; i3;", 3, 1);
         fault(x, "p5;;", 3, 1);
@@ -1139,27 +1100,31 @@ final class PromisesTest {
         due("count(4)", x.count(4), 0);
     }
 
-    private static void faultOfRange() {
+    private static CraneGates sluiceAndBeam() {
         CraneGates x = lake(SLUICE, 1);
         x.gate(BEAM, 1);
+        return x;
+    }
+
+    private static void faultOfRange() {
         String[] wrong = {"p0;", "p241;", "p999;", "i301;", "o2,1;", "o0,11;", "o1,11;", "o999,0;", "x2;", "x999;",
             "w3,1;", "w0,0;", "w0,21;", "o2,11;", "p000;"};
         for (String text : wrong) {
-            fault(x, text, 0, 2);
-            fault(x, "p240;" + text, 5, 2);
+            fault(sluiceAndBeam(), text, 0, 2);
+            fault(sluiceAndBeam(), "p240;" + text, 5, 2);
         }
         String[] right = {"p1;", "p240;", "i0;", "i300;", "o0,0;", "o1,10;", "w0,1;", "w1,20;", "w2,20;", "w2,1;o2,8;"};
         for (String text : right) {
-            noFault(x, text);
+            noFault(sluiceAndBeam(), text);
         }
+        CraneGates x = sluiceAndBeam();
         fault(x, "o2,5;w0,5;", 0, 2);
         noFault(x, "w0,5;o2,5;");
         noFault(x, "w0,5;o2,5;x2;");
     }
 
     private static void faultOfState() {
-        CraneGates x = lake(SLUICE, 1);
-        x.gate(BEAM, 1);
+        CraneGates x = sluiceAndBeam();
         fault(x, "o1,9;", 0, 3);
         fault(x, "x0;", 0, 3);
         fault(x, "o0,5;x0;x0;", 8, 3);
