@@ -60,6 +60,7 @@ final class EdgesOfCallsTest {
         minutesUntilAtLeastWithin1000();
         minutesUntilAtMostWithin1000();
         minutesToRestNow();
+        minutesToRestByTheRule();
         minutesToRestWithin1000();
         bestRuleArguments();
         bestRuleOfSeveralTheLowest();
@@ -80,6 +81,7 @@ final class EdgesOfCallsTest {
         eachChangeIsRecorded();
         whatIsNoChange();
         everythingButTheText();
+        everyAccountOfMinutes();
         invalidRatherThanNotPossible();
         invalidRatherThanLimit();
         invalidRatherThanNotFound();
@@ -491,6 +493,24 @@ final class EdgesOfCallsTest {
         due("a flood that has not ended", y.minutesToRest(), 1);
     }
 
+    private static void minutesToRestByTheRule() {
+        CraneGates x = Make.sluices(8);
+        x.order(7, 1);
+        x.order(1, 2);
+        int[] minutes = {7 + 1 + 6 + 2, 1 + 2 + 6 + 1, 1 + 2 + 6 + 1};
+        for (int rule = 0; rule < 3; rule++) {
+            x.set(2, rule);
+            due("by rule " + rule, x.minutesToRest(), minutes[rule]);
+        }
+        x.order(1, 1);
+        due("7 came first, by rule 2", x.minutesToRest(), 7 + 1 + 6 + 1);
+        x.set(2, 1);
+        due("1 is nearer, by rule 1", x.minutesToRest(), 1 + 1 + 6 + 1);
+        due("would(2, 11), by rule 1", x.would(2, 11), 1);
+        x.set(2, 0);
+        due("would(2, 11), by rule 0", x.would(2, 11), 0);
+    }
+
     /** A flood with an open sluice: below 1000 buckets 1 goes out in a minute, and the flood ends without any. */
     private static CraneGates slowFlood(int buckets) {
         CraneGates x = Make.opened(Make.lake(Make.SLUICE, 1), 0, 10);
@@ -620,18 +640,17 @@ final class EdgesOfCallsTest {
     }
 
     private static void leastFloodThoughMoreGivesNone() {
-        // from 7000 on 160 go out, so 10 to 14 a minute give no flood, but 8 do: 6990, 6998, 7006
+        // from 7000 on 160 go out, so 20 to 37 a minute give no flood, but 19 do: 6980, 6999, 7018
         CraneGates x = Make.lake(Make.FLAP, 20, 20, 20, 20, 20, 20, 20, 20);
-        x.fill(6990);
-        x.set(0, 7005);
-        due("leastFlood(3)", x.leastFlood(3), 8);
-        due("leastFlood(2)", x.leastFlood(2), 15);
-        x.inflow(8);
-        due("by 8", x.would(3, 4), 1);
-        x.inflow(12);
-        due("not by 12", x.would(3, 4), 0);
-        x.inflow(7);
-        due("not by 7", x.would(3, 4), 0);
+        x.fill(6980);
+        x.set(0, 7018);
+        due("leastFlood(3)", x.leastFlood(3), 19);
+        due("leastFlood(2)", x.leastFlood(2), 38);
+        int[] inflows = {18, 0, 19, 1, 20, 0, 37, 0, 38, 1, 300, 1};
+        for (int i = 0; i < inflows.length; i += 2) {
+            x.inflow(inflows[i]);
+            due("a flood by " + inflows[i], x.would(3, 4), inflows[i + 1]);
+        }
     }
 
     /** "LIMIT_REACHED if there would be more than 50000 minutes so far" is said of pass alone. */
@@ -769,6 +788,29 @@ final class EdgesOfCallsTest {
         due("the text is as it was typed", x.fault(0), NOTHING);
         x.play();
         due("9 minutes", x.count(4), 24 + 9);
+    }
+
+    private static void everyAccountOfMinutes() {
+        CraneGates x = Make.sluices(2);
+        x.inflow(300);
+        x.fill(7900);
+        x.order(1, 10);
+        int[] before = Looks.state(x);
+        int[] counts = {1, 4, 5, 6, 7, 8, 9, 10};
+        int[] ofCrane = {0, 3, 4, 5, 6};
+        // the crane goes to 1; a flood begins, the task is left and marked; gate 1 is opened fully; the lake runs over
+        x.pass(11);
+        int[] behind = Looks.state(x);
+        for (int what : counts) {
+            due("count(" + what + ") is another", x.count(what) == before[what] ? 0 : 1, 1);
+        }
+        for (int what : ofCrane) {
+            due("craneOf(" + what + ") is there", x.craneOf(what) > 0 ? 1 : 0, 1);
+        }
+        due("undo()", x.undo(), 3);
+        Looks.same(check, "undo() of minutes", Looks.state(x), before);
+        due("pass(11) again", x.pass(11), behind[1]);
+        Looks.same(check, "the same minutes again", Looks.state(x), behind);
     }
 
     // ---- "If several errors apply to a call, INVALID_ARGUMENT is returned rather than NOT_POSSIBLE"

@@ -449,6 +449,14 @@ final class EdgesOfCraneTest {
         due("a mark is no order", x.cancel(1), IMPOSSIBLE);
         due("the mark is there", x.gateOf(1, 6), 4);
         due("nor does an order wait", x.gateOf(1, 5), NOTHING);
+        CraneGates y = Make.sluices(2);
+        y.order(1, 4);
+        y.pass(2);
+        y.order(1, 2);
+        y.fill(8000);
+        y.pass(1);
+        due("cancel of the order that waited for that gate", y.cancel(1), 2);
+        due("the mark is there", y.gateOf(1, 6), 4);
     }
 
     // ---- "the latest mark, if there is one and there is no flood, which is gone then"
